@@ -32,9 +32,7 @@ public final class WrapGifts {
     private final Town trial;
     private boolean isKept;
     private final Sheet[] sheets;
-    private final int[] tape;
-    private int tapeLength;
-    private final TextReader reader;
+    private final Tape tape;
     private final int[] told;
     private final int[] row;
 
@@ -48,9 +46,7 @@ public final class WrapGifts {
         for (int s = 0; s < SHEETS; s++) {
             sheets[s] = new Sheet();
         }
-        tape = new int[MOST_BYTES];
-        tapeLength = 0;
-        reader = new TextReader(tape);
+        tape = new Tape();
         told = new int[FINDINGS];
         row = new int[MOST_LAYERS];
     }
@@ -424,27 +420,26 @@ public final class WrapGifts {
         if (!within(n, 1, 4)) {
             return tell(BEYOND);
         }
-        if (tapeLength + n > MOST_BYTES) {
+        if (tape.length + n > MOST_BYTES) {
             return tell(FULL);
         }
         for (int k = n - 1; k >= 0; k--) {
-            tape[tapeLength] = (bytes >>> (8 * k)) & 255;
-            tapeLength++;
+            tape.add((bytes >>> (8 * k)) & 255);
         }
-        return tapeLength;
+        return tape.length;
     }
 
     public int wipe() {
-        int had = tapeLength;
-        tapeLength = 0;
+        int had = tape.length;
+        tape.length = 0;
         return had;
     }
 
     public int town() {
         // The text is read into the trial, so that a fault leaves the town as it is.
         startTrial();
-        int answer = reader.readTown(trial, tapeLength);
-        tapeLength = 0;
+        int answer = tape.readTown(trial);
+        tape.length = 0;
         if (answer >= 0) {
             town.become(trial);
         }
@@ -597,7 +592,7 @@ public final class WrapGifts {
         switch (what) {
             case 0: return town.people;
             case 1: return town.presents;
-            case 2: return tapeLength;
+            case 2: return tape.length;
             case 3: return Integer.bitCount(town.opened());
             default: return tell(BEYOND);
         }
@@ -1121,8 +1116,8 @@ public final class WrapGifts {
         }
     }
 
-    /** Reads the text of a town, token by token, from a tape that others fill. */
-    private static final class TextReader {
+    /** Bytes, and the text of a town read from them token by token. */
+    private static final class Tape {
         private static final int FIRST_PAPER = 6;
         private static final int PRESENT = 10;
         private static final int THING = 11;
@@ -1132,20 +1127,22 @@ public final class WrapGifts {
         private static final int END = 14;
         private static final int OTHER = 15;
 
-        private final int[] bytes;
-        private int length;
+        private final int[] bytes = new int[MOST_BYTES];
+        int length;
         private int start;
         private int end;
         private int token;
         private int value;
 
-        TextReader(int[] bytes) {
-            this.bytes = bytes;
+        void add(int b) {
+            if (length < MOST_BYTES) {
+                bytes[length] = b;
+                length++;
+            }
         }
 
         /** Adds the items to the town: how many, or -1 less the place of the fault. */
-        int readTown(Town into, int howMany) {
-            length = Math.min(howMany, bytes.length);
+        int readTown(Town into) {
             end = 0;
             step();
             for (int items = 1; items <= MOST_BYTES; items++) {

@@ -36,6 +36,7 @@ public final class PromiseTest {
         daysGo();
         lastDay();
         daysOfEachKind();
+        bareThingsAreFound();
         joyIsCapped();
         nowTells();
         onAndJoyOn();
@@ -167,15 +168,18 @@ public final class PromiseTest {
         int[] enjoysMarbled = {4, 8, 3, 4, 0, 7};
         int[][] enjoys = {enjoysNews, enjoysBrown, enjoysTissue, enjoysMarbled};
         int[] struckByAir = {0, 5, 0, 0, 10, 5};
+        int[] struckByOne = {1, 0, 2, 1, 12, 0};
         int[] struckBySeven = {7, 0, 14, 7, 24, 3};
         int[] struckByMost = {99, 0, 198, 99, 208, 49};
         int air = gift(x, 0, 0);
         int seven = gift(x, 0, 7);
         int most = gift(x, 0, 99);
+        int one = gift(x, 0, 1);
         for (int p = 0; p < 6; p++) {
             due("4 opens none", x.does(p, 0, air), NONE);
             due("4 enjoys none", x.does(p, 1, air), NONE);
             due("4 struck by air " + p, x.does(p, 2, air), struckByAir[p]);
+            due("4 struck by 1 " + p, x.does(p, 2, one), struckByOne[p]);
             due("4 struck by 7 " + p, x.does(p, 2, seven), struckBySeven[p]);
             due("4 struck by 99 " + p, x.does(p, 2, most), struckByMost[p]);
             due("4 passes none on " + p, x.does(p, 3, air), 0);
@@ -203,7 +207,7 @@ public final class PromiseTest {
         due("4 person below", x.does(-1, 0, 0), BEYOND);
         due("4 what", x.does(0, 4, 0), BEYOND);
         due("4 what below", x.does(0, -1, 0), BEYOND);
-        due("4 present", x.does(0, 2, 3), BEYOND);
+        due("4 present", x.does(0, 2, 4), BEYOND);
         due("4 present below", x.does(0, 2, -1), BEYOND);
         due("4 beyond before none", x.does(6, 0, most), BEYOND);
         whatDaysTell();
@@ -444,6 +448,18 @@ public final class PromiseTest {
         due("14 in tissue on day 6", papers(clerk, 2), 311);
     }
 
+    private static void bareThingsAreFound() {
+        int[] joy = {8, 0, 16, 8, 26, 4};
+        for (int kind = 0; kind < 6; kind++) {
+            WrapGifts x = folk(kind);
+            x.joy(0, 100);
+            gift(x, 0, 8);
+            due("14 a bare thing is found by " + kind, x.days(1), 0);
+            due("14 it pleases " + kind, x.of(0, 1), 100 + joy[kind]);
+            due("14 of no layers " + kind, x.now(3), 0);
+        }
+    }
+
     private static void joyIsCapped() {
         WrapGifts x = folk(MAN);
         x.joy(0, 9997);
@@ -550,6 +566,17 @@ public final class PromiseTest {
         due("18 a clerk in 61 days", z.found(2), NONE);
         z.days(1);
         due("18 a clerk in 60 days", z.found(2), 60);
+        // Present 0 goes to and fro and leaves clerk 0 the even days, of which 10, 20, .., 60 open one each of the six.
+        WrapGifts w = folk(CLERK, CLERK);
+        w.days(2);
+        gift(w, 1, 0, NEWS, NEWS, NEWS, NEWS, NEWS, NEWS);
+        for (int g = 0; g < 6; g++) {
+            gift(w, 0, 0, NEWS);
+        }
+        gift(w, 0, 0, NEWS, NEWS);
+        due("19 in 61 days", w.comes(7, 1), NONE);
+        w.days(1);
+        due("19 in 60 days", w.comes(7, 1), 60);
     }
 
     private static void best() {
@@ -787,7 +814,8 @@ public final class PromiseTest {
     private static void townFaults() {
         Object[][] faults = {
             {"", 0}, {"   ", 3}, {";", 0}, {"man;", 4}, {"man; ", 5}, {"man;;", 4}, {"man aunt", 4}, {"manaunt", 0},
-            {"mans", 0}, {"Man", 0}, {"mAn", 0}, {"man!", 3}, {" 7", 1}, {"news", 0}, {"thing 3", 0}, {"man 3", 4},
+            {"mans", 0}, {"manz", 0}, {"mana", 0}, {"aman", 0}, {"nan", 0}, {"mam", 0}, {"presenta 0", 0},
+            {"Man", 0}, {"mAn", 0}, {"man!", 3}, {" 7", 1}, {"news", 0}, {"thing 3", 0}, {"man 3", 4},
             {"present", 7}, {"present ", 8}, {"present;", 7}, {"present man", 8}, {"present 1", 8}, {"present 1000", 8},
             {"present 4294967296", 8}, {"present 0 thing", 15}, {"present 0 thing ", 16}, {"present 0 thing 100", 16},
             {"present 0 thing news", 16}, {"present 0 thing 1 thing 2", 18}, {"present 0 news thing 1", 15},
@@ -825,6 +853,12 @@ public final class PromiseTest {
         due("29 eight", x.count(1), 8);
         WrapGifts y = new WrapGifts();
         due("29 nobody to be with", town(y, "present 0"), -1 - 8);
+        town(y, "manman;present 00000          ;");
+        due("29 what was on the tape isn't read again", town(y, "man"), 1);
+        town(y, "present 09999          ;");
+        due("29 nor a digit", town(y, "present 0"), 1);
+        town(y, "                        ");
+        due("29 nor a blank", town(y, "man;"), -1 - 4);
     }
 
     private static void sheets() {
@@ -850,6 +884,15 @@ public final class PromiseTest {
         x.write(3, 2, 9);
         x.sheet(3, 64, 7);
         due("30 all 0 again", x.write(3, 2, 9), 0);
+        x.sheet(3, 8, 7);
+        for (int i = 0; i < 7; i++) {
+            x.write(3, i, 9);
+        }
+        x.sheet(3, 8, 2);
+        x.sheet(3, 8, 7);
+        for (int i = 0; i < 7; i++) {
+            due("30 all are 0", x.write(3, i, 9), 0);
+        }
     }
 
     private static void writes() {
@@ -1011,6 +1054,22 @@ public final class PromiseTest {
         due("35 no day went", x.now(0), 0);
         x.write(0, 2, 20);
         due("35 none", x.read(0, 0, g), 0);
+        x.set(g, 2, 1);
+        int h = gift(x, 0, 50, NEWS, BROWN, MARBLED);
+        x.sheet(2, 16, 5);
+        x.turn(0, MAN);
+        x.book(2, 0);
+        // 0, 4, 6, 57, 57: only a man takes off one a day; marbled paper stops the poor one, who gives it on besides.
+        due("35 a man with 50", x.read(2, 0, h), 1);
+        x.turn(0, CHILD);
+        x.book(2, 0);
+        // 0, 4, 104, 104, 104.
+        due("35 a child with 50", x.read(2, 0, h), 1);
+        x.write(2, 1, 5);
+        due("35 not quite", x.read(2, 0, h), 0);
+        x.sheet(2, 0, 0);
+        x.set(h, 2, 1);
+        x.set(g, 2, 0);
         x.write(0, 0, 1);
         due("35 not even on 0", x.read(0, 0, g), 0);
         x.sheet(1, 64, 0);
@@ -1028,7 +1087,7 @@ public final class PromiseTest {
         due("35 missing before person", x.read(2, 2, g), MISSING);
         due("35 person", x.read(0, 2, g), BEYOND);
         due("35 person below", x.read(0, -1, g), BEYOND);
-        due("35 present", x.read(0, 0, 1), BEYOND);
+        due("35 present", x.read(0, 0, 2), BEYOND);
         due("35 present below", x.read(0, 0, -1), BEYOND);
         x.joy(0, 300);
         x.sheet(3, 8, 2);
