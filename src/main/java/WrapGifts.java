@@ -245,7 +245,7 @@ public final class WrapGifts {
             if (trial.gifts[present].isFound) {
                 return n;
             }
-            trial.goOn(1);
+            trial.oneDay();
         }
         return tell(NONE);
     }
@@ -259,7 +259,7 @@ public final class WrapGifts {
             if (trial.gifts[present].with == person) {
                 return n;
             }
-            trial.goOn(1);
+            trial.oneDay();
         }
         return tell(NONE);
     }
@@ -533,7 +533,7 @@ public final class WrapGifts {
         startTrial();
         for (int i = 0; i < sheets[s].size; i++) {
             sheets[s].put(i, trial.folk[person].joy);
-            trial.goOn(1);
+            trial.oneDay();
         }
         return sheets[s].size;
     }
@@ -679,7 +679,7 @@ public final class WrapGifts {
     private boolean trialGoesAs(Sheet sheet, int person) {
         for (int i = 0; i < sheet.size; i++) {
             if (i > 0) {
-                trial.goOn(1);
+                trial.oneDay();
             }
             if (trial.folk[person].joy != sheet.numbers[i]) {
                 return false;
@@ -1033,7 +1033,7 @@ public final class WrapGifts {
          * Each one touches a present of its own and its own joy alone, so that going by presents comes to the same
          * as going by people; and each present is met once, so that one passed on isn't met again.
          */
-        private void oneDay() {
+        void oneDay() {
             int busy = 0;
             for (int g = 0; g < presents; g++) {
                 Present gift = gifts[g];
